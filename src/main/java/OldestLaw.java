@@ -971,10 +971,10 @@ public final class OldestLaw {
         }
 
         private int hardness() {
-            if (says == MUST) {
-                return 2;
+            if (says == MAY) {
+                return 0;
             }
-            return says == MAY_NOT ? 1 : 0;
+            return says == MAY_NOT ? 1 : 2;
         }
 
         /** Works the speech out, if anything that the text can name is not as it was. */
@@ -1430,7 +1430,8 @@ public final class OldestLaw {
     /** A shelf: bare, or with a body, or with a row of one sort. */
     static final class Shelf {
         static final int PLACES = 60;
-        static final int BARE = -1, BYTE_ROW = 0, SHORT_ROW = 1, INT_ROW = 2, LONG_ROW = 3, BOOLEAN_ROW = 4, BODY = 5;
+        static final int BARE = -1, BODY = 5;
+        static final int BYTE_ROW = 0, SHORT_ROW = 1, INT_ROW = 2, LONG_ROW = 3, BOOLEAN_ROW = 4;
         private static final int NO_VERDICT = -1;
 
         int holds = BARE;
@@ -1486,8 +1487,8 @@ public final class OldestLaw {
                 case BYTE_ROW: return (byte) v;
                 case SHORT_ROW: return (short) v;
                 case INT_ROW: return (int) v;
-                case BOOLEAN_ROW: return v != 0L ? 1L : 0L;
-                default: return v;
+                case LONG_ROW: return v;
+                default: return v != 0L ? 1L : 0L;
             }
         }
 
@@ -1528,7 +1529,7 @@ public final class OldestLaw {
     /** The bodies kept by call, their kinds, and what they do. */
     static final class Clauses {
         private static final int MOST = 50, KINDS = 8, MOST_TRACED = 24, MOST_DEEP = 40;
-        private static final int ACTS = 4, SAY = 0, HOLD = 1, BEAT = 2, TELL = 3;
+        private static final int SAY = 0, HOLD = 1, BEAT = 2, ACTS = 4;
         private static final int[] ABOVE = {-1, 0, 0, 2, 1, 3, 0, 6};
         // by kind, and by act in it: which body of acts the kind itself has; 0: none
         private static final int[] OWN = {

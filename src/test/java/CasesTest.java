@@ -193,6 +193,11 @@ public final class CasesTest {
             Due.law(law, "1", 0, 1);
         }
         due.is(11, "never() of ten", law.never(), 1023 - 8);
+        OldestLaw ends = new OldestLaw();
+        Due.law(ends, "x+y+z=0", 10, 1);
+        Due.law(ends, "x+y+z=12", 10, 1);
+        Due.law(ends, "1", 20, 1);
+        due.is(11, "never() of the first case and the last", ends.never(), 0);
     }
 
     private static void lawsThatClash() {
@@ -228,5 +233,13 @@ public final class CasesTest {
         due.is(12, "clash(1, 0), one is not there", law.clash(1, 0), -1);
         due.is(12, "clash(10, 1), one is not there", law.clash(10, 1), -1);
         due.is(12, "clash(21, 1)", law.clash(21, 1), 0);
+        OldestLaw ends = new OldestLaw();
+        Due.law(ends, "x=y&y=z", 10, 1);
+        Due.law(ends, "x+y+z=12", 10, 0);
+        Due.law(ends, "x<1", 10, 2);
+        due.is(12, "clash(1, 0) of the last case", ends.clash(1, 0), 444);
+        due.is(12, "clash(1, 1) of the last case", ends.clash(1, 1), 1);
+        due.is(12, "clash(2, 0) of the first case", ends.clash(2, 0), 0);
+        due.is(12, "clash(2, 1) of the first case", ends.clash(2, 1), 1);
     }
 }

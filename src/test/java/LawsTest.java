@@ -14,6 +14,7 @@ public final class LawsTest {
         lawsFromARowThatEnds();
         whatIsMended();
         wordsMoved();
+        allThatWordsMayMean();
         whatALawIs();
         due.end();
     }
@@ -111,6 +112,8 @@ public final class LawsTest {
         says("x;y", (x, y, z) -> x != 0);
         says("x-1?y;z", (x, y, z) -> x != 1 ? y != 0 : z != 0);
         says("x?y;1?z;1", (x, y, z) -> x != 0 ? y != 0 : z != 0);
+        says("!x" + "+1".repeat(29), (x, y, z) -> true);
+        says("0?" + "1+".repeat(27) + "1;z", (x, y, z) -> z != 0);
         wraps();
     }
 
@@ -191,6 +194,11 @@ public final class LawsTest {
     private static void openAtOnce() {
         fault("((((((z))))))", -1);
         fault("(((((((z)))))))", 6);
+        fault("x?((((((z))))))", -1);
+        fault("x?(((((((z)))))))", 8);
+        fault("x;((((((z))))))", -1);
+        fault("x;(((((((z)))))))", 8);
+        fault("x?y;z?(((((((z", 12);
         fault("!!!!!!z", -1);
         fault("!!!!!!!z", 6);
         fault("------z", -1);
@@ -212,6 +220,8 @@ public final class LawsTest {
         fault("(((((!x)+!!!y))))", 11);
         String sixty = "x" + "+x".repeat(29);
         fault(sixty + "+", 60);
+        fault(sixty + ";", 60);
+        fault(sixty + "?", 60);
         fault(sixty.substring(0, 57) + "+12", -1);
         fault("((((((" + "x+".repeat(24) + ")))))", 54);
     }
@@ -368,6 +378,27 @@ public final class LawsTest {
         due.is(6, "moved(2, 1, 0)", law.moved(2, 1, 0), 1);
         due.speech(6, law, 0, "z as y", (x, y, z) -> x == 1 && y == 2 && y == 3);
         due.is(6, "count(4): no change to undo", law.count(4), 3);
+    }
+
+    /** From each way in which words may be moved to each other one, without a call between. */
+    private static void allThatWordsMayMean() {
+        for (int to = 0; to < 27; to++) {
+            OldestLaw law = new OldestLaw();
+            Due.law(law, "x*9+y*3+z=" + to, 10, 1);
+            for (int from = 0; from < 27; from++) {
+                means(law, from);
+                due.is(6, "speaks(0, 12) of " + to + " by " + from, law.speaks(0, 12), bit(from == to));
+                means(law, to);
+                due.is(6, "speaks(0, 12) of " + to, law.speaks(0, 12), 1);
+            }
+        }
+    }
+
+    private static void means(OldestLaw law, int key) {
+        int[] to = {key / 9, key / 3 % 3, key % 3};
+        for (int word = 0; word < 3; word++) {
+            law.moved(word, to[word] == word ? -1 : to[word], 0);
+        }
     }
 
     private static void whatALawIs() {

@@ -53,6 +53,13 @@ public final class MightTest {
         written(law, 5, 1, NOT, 111, 1, 11, -2, 101, -2, 110, -2, 311, -2, 131, -2, 113, -2);
         written(law, 5, 1, 411, 100, 1, 200, 1, 0, -2, 300, -2);
         written(law, 5, 1, NOT, 100, 1, 100, -2);
+        written(law, 5, 1, 2843, 33, 1, 44, 1, 143, 1, 434, 1, 32, -2, 23, -2, 424, -2);
+        long[] thirty = new long[60];
+        for (int k = 0; k < 60; k += 2) {
+            thirty[k] = k == 58 ? 400 : 100;
+            thirty[k + 1] = k == 58 ? -2 : 1;
+        }
+        written(law, 5, 1, 300, thirty);
         due.is(13, "count(0)", law.count(0), 0);
     }
 
@@ -275,6 +282,11 @@ public final class MightTest {
         }
         unsaid(other, 1023 - 31 + 4, 444, 1);
         unsaid(other, 1023 - 4 - 8, 444, -2);
+        OldestLaw ten = new OldestLaw();
+        for (int k = 0; k < 10; k++) {
+            Due.law(ten, "1", 10, 1);
+        }
+        unsaid(ten, 1023, 444, -2);
     }
 
     private static void under(OldestLaw law, int number, int many, int fallen) {
@@ -342,6 +354,12 @@ public final class MightTest {
         for (int rs : bad) {
             unlike(law, rs, -1, -1);
         }
+        OldestLaw ends = new OldestLaw();
+        Due.law(ends, "x=y&y=z", 10, 2);
+        Due.law(ends, "x+y+z=0|x+y+z=12", 20, 1);
+        unlike(ends, 1, 2, 0);
+        ends.mend(1, 0, 10);
+        unlike(ends, 10, 2, 0);
         due.is(18, "unlike(1, 2)", law.unlike(1, 2), -1);
         due.is(18, "unlike(1, -1)", law.unlike(1, -1), -1);
     }
@@ -506,5 +524,30 @@ public final class MightTest {
         due.is(23, "redo()", law.redo(), -5);
         due.is(22, "undo()", law.undo(), 39);
         due.is(22, "of(0, 0)", law.of(0, 0), 43);
+        changesOfAllKinds();
+    }
+
+    /** As many changes as make the first ones be dropped, each of another law and kind than the next. */
+    private static void changesOfAllKinds() {
+        OldestLaw law = new OldestLaw();
+        Due.law(law, "1", 0, 0);
+        Due.law(law, "1", 0, 0);
+        Due.law(law, "1", 0, 0);
+        law.mend(1, 1, 1);
+        due.is(22, "undo()", law.undo(), 0);
+        due.is(22, "of(1, 1)", law.of(1, 1), 0);
+        due.is(23, "redo()", law.redo(), 0);
+        due.is(23, "of(1, 1)", law.of(1, 1), 1);
+        int[][] was = new int[44][];
+        for (int k = 0; k < 44; k++) {
+            int number = k % 3, what = k % 5 > 2 ? 2 : k % 5;
+            was[k] = new int[] {number, what, law.of(number, what)};
+            law.mend(number, what, what == 0 ? k : k % 7 % 3);
+        }
+        for (int k = 43; k >= 4; k--) {
+            due.is(22, "undo()", law.undo(), k - 4);
+            due.is(22, "of(" + was[k][0] + ", " + was[k][1] + ")", law.of(was[k][0], was[k][1]), was[k][2]);
+        }
+        due.is(22, "undo()", law.undo(), -5);
     }
 }

@@ -158,8 +158,11 @@ public final class ShelvesTest {
                 due.is(30, "element(2, " + i + ") of sort " + sort, law.element(2, i), want[sort]);
             }
         }
+        law.put(2, 0, 1);
         due.is(28, "row(2, 4, 17) anew", law.row(2, 4, 17), 1);
-        due.is(28, "element(2, 1) anew", law.element(2, 1), 0);
+        for (int i = 0; i < 17; i++) {
+            due.is(28, "element(2, " + i + ") anew", law.element(2, i), 0);
+        }
     }
 
     private static void placesOfARow() {
