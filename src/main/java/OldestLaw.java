@@ -102,8 +102,11 @@ public final class OldestLaw {
             return VOID;
         }
         int was = court.valueOf(number, what);
-        changes.add(number, what, was, v);
-        court.set(number, what, v);
+        // what stays as it is has not changed: nothing to undo, and nothing that came behind what was undone
+        if (was != v) {
+            changes.add(number, what, was, v);
+            court.set(number, what, v);
+        }
         return was;
     }
 
@@ -1319,11 +1322,15 @@ public final class OldestLaw {
             return law.speech.has(place) && (holder == null || law.goesAhead(holder, rule));
         }
 
-        /** The law that holds in the first two that no wording sets right; null: none. */
+        /** The law that holds in the first two that no wording sets right; null: none holds, or there is none. */
         Law barring(Shelf told, Court court) {
             for (int k = 0; k < told.twos(); k++) {
+                // no wording sets right what is no case with a verdict, and no law is what bars it
+                if (!told.isTwo(k)) {
+                    return null;
+                }
                 Law holder = court.holder(told.placeOfTwo(k), court.rule);
-                if (told.isTwo(k) && isBarred(told, k, holder, court.rule)) {
+                if (isBarred(told, k, holder, court.rule)) {
                     return holder;
                 }
             }

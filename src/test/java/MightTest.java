@@ -17,6 +17,7 @@ public final class MightTest {
         ringsOfLaws();
         imagesOfAll();
         undoneAndDoneAgain();
+        whatStaysIsNoChange();
         theLatestForty();
         due.end();
     }
@@ -172,7 +173,14 @@ public final class MightTest {
         barred(law, 60, 1, 1, 200, 1);
         barred(law, 59, 1, NOT, 200, 1);
         barred(law, 59, 1, NOT, 300, 2, 200, 0);
-        barred(law, 50, 1, 1, 0, 3, 5, 1, 200, 0);
+        barred(law, 50, 1, 1, 300, 1, 200, 0);
+        barred(law, 50, 1, NOT, 0, 3, 200, 0);
+        barred(law, 50, 1, NOT, 300, 1, 100, -1, 200, 0);
+        barred(law, 50, 1, NOT, 5, 1, 200, 0);
+        barred(law, 50, 1, NOT, -1, 1, 200, 0);
+        barred(law, 50, 1, 1, 200, 0, 0, 3);
+        barred(law, 50, 1, 1, 200, 0, 5, 1, 100);
+        barred(law, 50, 1, NOT, 100);
         law.mend(0, 3, 1);
         barred(law, 49, 1, 1, 100, 1);
         barred(law, 60, 1, NOT, 100, 1);
@@ -495,9 +503,40 @@ public final class MightTest {
         due.is(23, "redo()", law.redo(), 1);
         due.is(23, "redo()", law.redo(), 0);
         due.is(23, "of(0, 0)", law.of(0, 0), 7);
-        law.mend(0, 0, 7);
-        due.is(22, "undo(): mended to what it was", law.undo(), 5);
         due.is(22, "of(0, 10): words are not undone", law.of(0, 10), 1);
+    }
+
+    private static void whatStaysIsNoChange() {
+        OldestLaw law = new OldestLaw();
+        Due.law(law, "x=1", 10, 2);
+        int[][] same = {{0, 10}, {1, 2}, {2, -1}, {3, 0}, {4, 99}};
+        for (int[] each : same) {
+            due.is(5, "mend(0, " + each[0] + ", " + each[1] + ")", law.mend(0, each[0], each[1]), each[1]);
+            due.is(33, "count(4): " + each[0] + " is as it was", law.count(4), 0);
+            due.is(22, "undo()", law.undo(), -5);
+        }
+        int[][] other = {{0, 20}, {1, 0}, {2, 0}, {3, 1}, {4, 50}};
+        for (int k = 0; k < 5; k++) {
+            due.is(5, "mend(0, " + k + ", ..)", law.mend(0, other[k][0], other[k][1]), same[k][1]);
+            due.is(5, "mend(0, " + k + ", ..)", law.mend(0, other[k][0], other[k][1]), other[k][1]);
+            due.is(33, "count(4)", law.count(4), k + 1);
+        }
+        law.undo();
+        law.undo();
+        law.mend(0, 3, 0);
+        law.mend(0, 0, 20);
+        due.is(33, "count(4)", law.count(4), 3);
+        due.is(23, "redo(): nothing came behind", law.redo(), 1);
+        due.is(23, "of(0, 20)", law.of(0, 20), 1);
+        law.mend(0, 0, 21);
+        due.is(23, "redo(): another came behind", law.redo(), -5);
+        due.is(22, "undo()", law.undo(), 4);
+        due.is(22, "of(0, 0)", law.of(0, 0), 20);
+        for (int k = 0; k < 45; k++) {
+            law.mend(0, 0, 20);
+        }
+        due.is(33, "count(4)", law.count(4), 4);
+        due.is(23, "redo()", law.redo(), 0);
     }
 
     private static void theLatestForty() {
@@ -541,8 +580,9 @@ public final class MightTest {
         int[][] was = new int[44][];
         for (int k = 0; k < 44; k++) {
             int number = k % 3, what = k % 5 > 2 ? 2 : k % 5;
-            was[k] = new int[] {number, what, law.of(number, what)};
-            law.mend(number, what, what == 0 ? k : k % 7 % 3);
+            int before = law.of(number, what);
+            was[k] = new int[] {number, what, before};
+            law.mend(number, what, what == 0 ? k + 1 : (before + 1 + k % 2) % (what == 1 ? 3 : 10));
         }
         for (int k = 43; k >= 4; k--) {
             due.is(22, "undo()", law.undo(), k - 4);

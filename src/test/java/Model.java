@@ -362,6 +362,9 @@ final class Model {
             return VOID;
         }
         int was = change(number, what, v);
+        if (was == v) {
+            return was;
+        }
         done.add(new int[] {number, what, was, v});
         if (done.size() > 40) {
             done.remove(0);
@@ -544,7 +547,10 @@ final class Model {
         }
         long[] v = rowOn(shelf);
         for (int k = 0; k < v.length; k += 2) {
-            if (isTwo(v, k) && !anyWordingFor((int) v[k], (int) v[k + 1], date, says)) {
+            if (!isTwo(v, k)) {
+                return NOT;
+            }
+            if (!anyWordingFor((int) v[k], (int) v[k + 1], date, says)) {
                 Told holder = world.holder((int) v[k], world.rule);
                 return holder == null ? NOT : holder.number;
             }
