@@ -19,7 +19,7 @@ public final class CasesTest {
         Integer.MIN_VALUE, Integer.MAX_VALUE};
 
     private static void whoSpeaks() {
-        OldestLaw law = new OldestLaw();
+        Run law = new Run();
         due.is(8, "speaks(0, 0) without laws", law.speaks(0, 0), -1);
         Due.law(law, "x+y>z", 40, 1);
         due.speech(8, law, 0, "x+y>z", (x, y, z) -> x + y > z);
@@ -33,14 +33,14 @@ public final class CasesTest {
         due.is(8, "speaks(10, 0)", law.speaks(10, 0), -1);
     }
 
-    private static void verdict(OldestLaw law, int kase, int says, int number, int beaten) {
+    private static void verdict(Run law, int kase, int says, int number, int beaten) {
         due.is(9, "verdict(" + kase + ", 0)", law.verdict(kase, 0), says);
         due.is(9, "verdict(" + kase + ", 1)", law.verdict(kase, 1), number);
         due.is(9, "verdict(" + kase + ", 2)", law.verdict(kase, 2), beaten);
     }
 
     private static void verdictsByRule() {
-        OldestLaw law = new OldestLaw();
+        Run law = new Run();
         verdict(law, 0, NOT, NOT, NOT);
         Due.law(law, "x<4", 30, 2);
         Due.law(law, "x=1", 10, 0);
@@ -72,7 +72,7 @@ public final class CasesTest {
 
     /** Three laws of one date that speak everywhere: by each rule, which of like ones. */
     private static void verdictsOfLikeOnes() {
-        OldestLaw law = new OldestLaw();
+        Run law = new Run();
         for (int k = 0; k < 3; k++) {
             Due.law(law, "1", 20, 0);
         }
@@ -100,7 +100,7 @@ public final class CasesTest {
     }
 
     private static void verdictsOfThoseThatStand() {
-        OldestLaw law = new OldestLaw();
+        Run law = new Run();
         Due.law(law, "0", 10, 1);
         Due.law(law, "1", 20, 2);
         Due.law(law, "1", 30, 0);
@@ -115,13 +115,13 @@ public final class CasesTest {
         verdict(law, 123, NOT, NOT, NOT);
     }
 
-    private static void judged(OldestLaw law, int want, long... row) {
+    private static void judged(Run law, int want, long... row) {
         Due.row(law, 3, Due.SHORTS, row);
         due.is(10, "judge(3)", law.judge(3), want);
     }
 
     private static void rowsJudged() {
-        OldestLaw law = new OldestLaw();
+        Run law = new Run();
         Due.law(law, "x=1", 10, 2);
         Due.law(law, "x=2", 10, 0);
         judged(law, NOT);
@@ -153,7 +153,7 @@ public final class CasesTest {
     }
 
     private static void rowsOfOtherKinds() {
-        OldestLaw law = new OldestLaw();
+        Run law = new Run();
         due.is(10, "judge(-1)", law.judge(-1), -1);
         due.is(10, "judge(6)", law.judge(6), -1);
         due.is(10, "judge(5)", law.judge(5), -11);
@@ -169,7 +169,7 @@ public final class CasesTest {
     }
 
     private static void lawsThatNeverHold() {
-        OldestLaw law = new OldestLaw();
+        Run law = new Run();
         Due.law(law, "x=1", 30, 2);
         due.is(11, "never()", law.never(), 0);
         Due.law(law, "0", 10, 1);
@@ -193,7 +193,7 @@ public final class CasesTest {
             Due.law(law, "1", 0, 1);
         }
         due.is(11, "never() of ten", law.never(), 1023 - 8);
-        OldestLaw ends = new OldestLaw();
+        Run ends = new Run();
         Due.law(ends, "x+y+z=0", 10, 1);
         Due.law(ends, "x+y+z=12", 10, 1);
         Due.law(ends, "1", 20, 1);
@@ -201,7 +201,7 @@ public final class CasesTest {
     }
 
     private static void lawsThatClash() {
-        OldestLaw law = new OldestLaw();
+        Run law = new Run();
         due.is(12, "clash(1, 0) without laws", law.clash(1, 0), -1);
         Due.law(law, "x>2", 30, 2);
         Due.law(law, "y=z", 10, 1);
@@ -233,7 +233,7 @@ public final class CasesTest {
         due.is(12, "clash(1, 0), one is not there", law.clash(1, 0), -1);
         due.is(12, "clash(10, 1), one is not there", law.clash(10, 1), -1);
         due.is(12, "clash(21, 1)", law.clash(21, 1), 0);
-        OldestLaw ends = new OldestLaw();
+        Run ends = new Run();
         Due.law(ends, "x=y&y=z", 10, 1);
         Due.law(ends, "x+y+z=12", 10, 0);
         Due.law(ends, "x<1", 10, 2);

@@ -4,13 +4,31 @@ final class Due {
 
     private int wrong = 0;
     private int calls = 0;
+    private int promise = 0;
+    private String sentence = "";
 
-    /** A call whose answer must be what is due by a promise. */
-    void is(int promise, String call, long got, long want) {
+    /** From here on, what is due is due by these words of the document. */
+    void by(int ofPromise, String words) {
+        promise = ofPromise;
+        sentence = words;
+    }
+
+    /** An answer that must be as the words say that were named last. */
+    void is(long got, long want) {
         calls++;
         if (got != want) {
             wrong++;
-            System.out.println("promise " + promise + ": " + call + " answered " + got + ", due is " + want);
+            System.out.println("promise " + promise + ", \"" + sentence + "\": answered " + got + ", due is " + want
+                + ", at the last of" + Run.latestCalls());
+        }
+    }
+
+    /** A call whose answer must be what is due by a promise. */
+    void is(int ofPromise, String call, long got, long want) {
+        calls++;
+        if (got != want) {
+            wrong++;
+            System.out.println("promise " + ofPromise + ": " + call + " answered " + got + ", due is " + want);
         }
     }
 
@@ -21,18 +39,18 @@ final class Due {
         }
     }
 
-    static void feed(OldestLaw law, String text) {
+    static void feed(Run law, String text) {
         for (int i = 0; i < text.length(); i++) {
             law.feed(text.charAt(i));
         }
     }
 
-    static int law(OldestLaw law, String text, int date, int says) {
+    static int law(Run law, String text, int date, int says) {
         feed(law, text);
         return law.law(date, says);
     }
 
-    static void row(OldestLaw law, int shelf, int sort, long... elements) {
+    static void row(Run law, int shelf, int sort, long... elements) {
         law.row(shelf, sort, elements.length);
         for (int i = 0; i < elements.length; i++) {
             law.put(shelf, i, elements[i]);
@@ -44,7 +62,7 @@ final class Due {
     }
 
     /** A law must speak just in the cases that are told, and in so many. */
-    void speech(int promise, OldestLaw law, int number, String text, InCase told) {
+    void speech(int ofPromise, Run law, int number, String text, InCase told) {
         int many = 0;
         for (int x = 0; x < 5; x++) {
             for (int y = 0; y < 5; y++) {
@@ -52,7 +70,7 @@ final class Due {
                     int want = told.so(x, y, z) ? 1 : 0;
                     int kase = 100 * x + 10 * y + z;
                     many += want;
-                    is(promise, text + ": speaks(" + number + ", " + kase + ")", law.speaks(number, kase), want);
+                    is(ofPromise, text + ": speaks(" + number + ", " + kase + ")", law.speaks(number, kase), want);
                 }
             }
         }

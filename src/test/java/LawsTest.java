@@ -14,13 +14,14 @@ public final class LawsTest {
         lawsFromARowThatEnds();
         whatIsMended();
         wordsMoved();
+        wordsNotMoved();
         allThatWordsMayMean();
         whatALawIs();
         due.end();
     }
 
     private static void aNewObject() {
-        OldestLaw law = new OldestLaw();
+        Run law = new Run();
         for (int what = 0; what <= 6; what++) {
             due.is(1, "count(" + what + ")", law.count(what), 0);
         }
@@ -37,11 +38,11 @@ public final class LawsTest {
         }
         due.is(1, "of(0, 0)", law.of(0, 0), VOID);
         Due.law(law, "1", 3, 1);
-        due.is(1, "count(0) of a second object", new OldestLaw().count(0), 0);
+        due.is(1, "count(0) of a second object", new Run().count(0), 0);
     }
 
     private static void theTape() {
-        OldestLaw law = new OldestLaw();
+        Run law = new Run();
         due.is(2, "feed(-1)", law.feed(-1), -1);
         due.is(2, "feed(256)", law.feed(256), -1);
         due.is(2, "feed(0)", law.feed(0), 1);
@@ -62,7 +63,7 @@ public final class LawsTest {
     }
 
     private static void says(String text, Due.InCase told) {
-        OldestLaw law = new OldestLaw();
+        Run law = new Run();
         due.is(3, text + ": law(7, 1)", Due.law(law, text, 7, 1), 0);
         due.speech(8, law, 0, text, told);
     }
@@ -127,14 +128,22 @@ public final class LawsTest {
         says("8192*8192*32-x>0", (x, y, z) -> least - x > 0);
     }
 
-    private static void namesOfTheLaw() {
-        OldestLaw law = new OldestLaw();
+    private static Run lawsWithNames() {
+        Run law = new Run();
         Due.law(law, "x=d", 3, 1);
         Due.law(law, "x=n", 9, 1);
         Due.law(law, "t-95=z", 9, 1);
+        return law;
+    }
+
+    private static void namesOfTheLaw() {
+        Run law = lawsWithNames();
         due.speech(8, law, 0, "x=d", (x, y, z) -> x == 3);
         due.speech(8, law, 1, "x=n", (x, y, z) -> x == 1);
         due.speech(8, law, 2, "t-95=z", (x, y, z) -> z == 4);
+        law = lawsWithNames();
+        law.of(0, 5);
+        law.of(2, 5);
         law.mend(0, 0, 4);
         law.mend(0, 4, 97);
         due.speech(8, law, 0, "x=d", (x, y, z) -> x == 4);
@@ -144,7 +153,7 @@ public final class LawsTest {
     }
 
     private static void fault(String text, int place) {
-        OldestLaw law = new OldestLaw();
+        Run law = new Run();
         due.is(3, text, Due.law(law, text, 0, 0), place < 0 ? 0 : -100 - place);
         due.is(3, text + ": count(0)", law.count(0), place < 0 ? 1 : 0);
         due.is(3, text + ": count(3)", law.count(3), 0);
@@ -227,7 +236,7 @@ public final class LawsTest {
     }
 
     private static void lawsAsTheyCome() {
-        OldestLaw law = new OldestLaw();
+        Run law = new Run();
         Due.feed(law, "x=");
         int[][] bad = {{-1, 0}, {100, 0}, {0, -1}, {0, 3}, {Integer.MIN_VALUE, 1}, {1, Integer.MAX_VALUE}};
         for (int[] each : bad) {
@@ -253,7 +262,7 @@ public final class LawsTest {
     }
 
     private static void lawsFromARow() {
-        OldestLaw law = new OldestLaw();
+        Run law = new Run();
         due.is(4, "laws(0, 0, 1), bare", law.laws(0, 0, 1), 0);
         due.is(4, "laws(0, -1, 1), bare", law.laws(0, -1, 1), 0);
         Due.row(law, 0, Due.BYTES, 7, 7, 30, 2, -1, 0, 1, 3, 0, 0, 9, 2, 2, 0, 99, 1, 4, 1, 0, 9);
@@ -283,7 +292,7 @@ public final class LawsTest {
     }
 
     private static void lawsFromARowThatEnds() {
-        OldestLaw law = new OldestLaw();
+        Run law = new Run();
         int[] sorts = {Due.SHORTS, Due.INTS, Due.LONGS, Due.BOOLEANS};
         for (int sort : sorts) {
             law.row(1, sort, 60);
@@ -303,7 +312,7 @@ public final class LawsTest {
         for (int[] each : wrong) {
             Due.row(law, 0, Due.BYTES, 99, 0, 9, 0, 0, 0, 99, 0, 9, 0, 0, 0, 1, 1, 1, 1, 1, 1);
             law.put(0, 6 + each[0], each[1]);
-            OldestLaw fresh = new OldestLaw();
+            Run fresh = new Run();
             Due.row(fresh, 0, Due.BYTES, 99, 0, 9, 0, 0, 0, 99, 0, 9, 0, 0, 0, 1, 1, 1, 1, 1, 1);
             fresh.put(0, 6 + each[0], each[1]);
             due.is(4, "laws(0, 0, 3), " + each[0] + " is " + each[1], fresh.laws(0, 0, 3), 1);
@@ -313,13 +322,13 @@ public final class LawsTest {
         due.is(4, "laws(0, 0, 10): two are there", law.laws(0, 0, 10), 8);
         due.is(4, "laws(0, 0, 10): ten are there", law.laws(0, 0, 10), 0);
         due.is(4, "count(0)", law.count(0), 10);
-        OldestLaw ten = new OldestLaw();
+        Run ten = new Run();
         Due.row(ten, 5, Due.BYTES, new long[60]);
         due.is(4, "laws(5, 0, 10)", ten.laws(5, 0, 10), 10);
     }
 
     private static void whatIsMended() {
-        OldestLaw law = new OldestLaw();
+        Run law = new Run();
         due.is(5, "mend(0, 0, 5) without laws", law.mend(0, 0, 5), VOID);
         due.is(5, "mend(0, 3, 3) without laws", law.mend(0, 3, 3), 0);
         due.is(5, "mend(0, 4, 0) without laws", law.mend(0, 4, 0), 99);
@@ -348,11 +357,16 @@ public final class LawsTest {
         }
     }
 
-    private static void wordsMoved() {
-        OldestLaw law = new OldestLaw();
+    private static Run lawOfMovedWords() {
+        Run law = new Run();
         Due.law(law, "x=1&y=2&z=3", 10, 1);
         due.is(6, "moved(0, 1, 40)", law.moved(0, 1, 40), 1);
         due.is(6, "moved(1, 2, 41)", law.moved(1, 2, 41), 1);
+        return law;
+    }
+
+    private static void wordsMoved() {
+        Run law = lawOfMovedWords();
         due.speech(6, law, 0, "x as y, y as z", (x, y, z) -> y == 1 && z == 2 && z == 3);
         law.mend(0, 4, 40);
         due.is(6, "of(0, 10)", law.of(0, 10), 1);
@@ -360,9 +374,17 @@ public final class LawsTest {
         due.speech(6, law, 0, "x as y", (x, y, z) -> y == 1 && y == 2 && z == 3);
         law.mend(0, 4, 39);
         due.speech(6, law, 0, "none yet", (x, y, z) -> x == 1 && y == 2 && z == 3);
+        law = lawOfMovedWords();
+        law.mend(0, 4, 39);
+        law.of(0, 5);
         law.mend(0, 4, 99);
         due.is(6, "moved(1, 0, 99)", law.moved(1, 0, 99), 1);
         due.speech(6, law, 0, "x as y, y as x", (x, y, z) -> y == 1 && x == 2 && z == 3);
+        due.is(6, "count(4): no change to undo", law.count(4), 2);
+    }
+
+    private static void wordsNotMoved() {
+        Run law = lawOfMovedWords();
         int[][] bad = {{-1, 0, 0}, {3, 0, 0}, {0, 0, 0}, {1, 1, 0}, {2, 2, 0}, {0, 3, 0}, {0, -2, 0}, {0, 1, -1},
             {0, 1, 100}, {3, -1, 0}, {-1, -1, 0}};
         for (int[] each : bad) {
@@ -377,13 +399,13 @@ public final class LawsTest {
         due.speech(6, law, 0, "z as x", (x, y, z) -> x == 1 && y == 2 && x == 3);
         due.is(6, "moved(2, 1, 0)", law.moved(2, 1, 0), 1);
         due.speech(6, law, 0, "z as y", (x, y, z) -> x == 1 && y == 2 && y == 3);
-        due.is(6, "count(4): no change to undo", law.count(4), 3);
+        due.is(6, "count(4): no change to undo", law.count(4), 0);
     }
 
     /** From each way in which words may be moved to each other one, without a call between. */
     private static void allThatWordsMayMean() {
         for (int to = 0; to < 27; to++) {
-            OldestLaw law = new OldestLaw();
+            Run law = new Run();
             Due.law(law, "x*9+y*3+z=" + to, 10, 1);
             for (int from = 0; from < 27; from++) {
                 means(law, from);
@@ -394,7 +416,7 @@ public final class LawsTest {
         }
     }
 
-    private static void means(OldestLaw law, int key) {
+    private static void means(Run law, int key) {
         int[] to = {key / 9, key / 3 % 3, key % 3};
         for (int word = 0; word < 3; word++) {
             law.moved(word, to[word] == word ? -1 : to[word], 0);
@@ -402,7 +424,7 @@ public final class LawsTest {
     }
 
     private static void whatALawIs() {
-        OldestLaw law = new OldestLaw();
+        Run law = new Run();
         Due.law(law, "x=1", 20, 2);
         Due.law(law, "y>1", 30, 0);
         Due.law(law, "z", 20, 1);
@@ -429,7 +451,7 @@ public final class LawsTest {
     }
 
     private static void standing() {
-        OldestLaw law = new OldestLaw();
+        Run law = new Run();
         for (int k = 0; k < 5; k++) {
             Due.law(law, "1", 10 + 10 * k, 1);
         }

@@ -22,17 +22,17 @@ public final class MightTest {
         due.end();
     }
 
-    private static void told(OldestLaw law, long... row) {
+    private static void told(Run law, long... row) {
         Due.row(law, 0, Due.SHORTS, row);
     }
 
-    private static void written(OldestLaw law, int date, int says, int want, long... row) {
+    private static void written(Run law, int date, int says, int want, long... row) {
         told(law, row);
         due.is(13, "write(0, " + date + ", " + says + ")", law.write(0, date, says), want);
     }
 
     private static void wordingsInTheirOrder() {
-        OldestLaw law = new OldestLaw();
+        Run law = new Run();
         written(law, 5, 1, 0);
         written(law, 5, 1, 0, 123, 1);
         written(law, 5, 1, NOT, 123, 2);
@@ -65,7 +65,7 @@ public final class MightTest {
     }
 
     private static void wordingsByRule() {
-        OldestLaw law = new OldestLaw();
+        Run law = new Run();
         Due.law(law, "x=0&y=0", 50, 0);
         written(law, 49, 2, 0, 0, 2);
         written(law, 50, 2, NOT, 0, 2);
@@ -93,7 +93,7 @@ public final class MightTest {
     }
 
     private static void wordingsOfMovedWords() {
-        OldestLaw law = new OldestLaw();
+        Run law = new Run();
         law.moved(0, 2, 30);
         written(law, 5, 1, 500, 4, -2, 3, 1);
         written(law, 5, 1, NOT, 0, 1, 100, -2);
@@ -115,7 +115,7 @@ public final class MightTest {
     }
 
     private static void rowsOfNoTwos() {
-        OldestLaw law = new OldestLaw();
+        Run law = new Run();
         int[][] bad = {{-1, 0, 0}, {6, 0, 0}, {0, -1, 0}, {0, 100, 0}, {0, 0, -1}, {0, 0, 3}};
         for (int[] each : bad) {
             due.is(13, "write(" + each[0] + ", ..)", law.write(each[0], each[1], each[2]), -1);
@@ -150,13 +150,13 @@ public final class MightTest {
         due.is(16, "falseOnes(0) of none", law.falseOnes(0), 0);
     }
 
-    private static void barred(OldestLaw law, int date, int says, int want, long... row) {
+    private static void barred(Run law, int date, int says, int want, long... row) {
         told(law, row);
         due.is(14, "bars(0, " + date + ", " + says + ")", law.bars(0, date, says), want);
     }
 
     private static void lawsThatBar() {
-        OldestLaw law = new OldestLaw();
+        Run law = new Run();
         barred(law, 5, 1, NOT, 0, 1);
         barred(law, 5, 1, NOT, 0, 2);
         barred(law, 5, 1, NOT, 0, -2);
@@ -195,13 +195,13 @@ public final class MightTest {
         due.is(14, "bars(0, 100, 2)", law.bars(0, 100, 2), -1);
     }
 
-    private static void meant(OldestLaw law, int word, int many, int first) {
+    private static void meant(Run law, int word, int many, int first) {
         due.is(15, "meant(" + word + ", 0)", law.meant(word, 0), many);
         due.is(15, "meant(" + word + ", 1)", law.meant(word, 1), first);
     }
 
     private static void casesChangedByAWord() {
-        OldestLaw law = new OldestLaw();
+        Run law = new Run();
         meant(law, 0, 0, NOT);
         Due.law(law, "x=1", 10, 1);
         meant(law, 0, 0, NOT);
@@ -225,7 +225,7 @@ public final class MightTest {
         due.is(15, "meant(-1, 0)", law.meant(-1, 0), -1);
         due.is(15, "meant(0, 2)", law.meant(0, 2), -1);
         due.is(15, "meant(0, -1)", law.meant(0, -1), -1);
-        OldestLaw narrow = new OldestLaw();
+        Run narrow = new Run();
         Due.law(narrow, "x=1|y=1|x=2", 10, 2);
         Due.law(narrow, "z<2", 20, 0);
         narrow.mend(0, 3, 2);
@@ -233,13 +233,13 @@ public final class MightTest {
         meant(narrow, 0, 47, 10);
     }
 
-    private static void unsaid(OldestLaw law, int want, long... row) {
+    private static void unsaid(Run law, int want, long... row) {
         told(law, row);
         due.is(16, "falseOnes(0)", law.falseOnes(0), want);
     }
 
     private static void falseOnes() {
-        OldestLaw law = new OldestLaw();
+        Run law = new Run();
         unsaid(law, 0, 0, -2);
         unsaid(law, NOT, 0, 1);
         Due.law(law, "x=0", 10, 0);
@@ -267,7 +267,7 @@ public final class MightTest {
     }
 
     private static void falseOnesThatStrike() {
-        OldestLaw law = new OldestLaw();
+        Run law = new Run();
         Due.law(law, "0", 10, 0);
         Due.law(law, "0", 20, 0);
         Due.law(law, "1", 30, 2);
@@ -277,7 +277,7 @@ public final class MightTest {
         unsaid(law, 1, 0, -2);
         law.mend(1, 2, -1);
         unsaid(law, 4, 0, -2);
-        OldestLaw other = new OldestLaw();
+        Run other = new Run();
         Due.law(other, "1", 50, 2);
         Due.law(other, "1", 50, 2);
         Due.law(other, "0", 30, 2);
@@ -290,20 +290,20 @@ public final class MightTest {
         }
         unsaid(other, 1023 - 31 + 4, 444, 1);
         unsaid(other, 1023 - 4 - 8, 444, -2);
-        OldestLaw ten = new OldestLaw();
+        Run ten = new Run();
         for (int k = 0; k < 10; k++) {
             Due.law(ten, "1", 10, 1);
         }
         unsaid(ten, 1023, 444, -2);
     }
 
-    private static void under(OldestLaw law, int number, int many, int fallen) {
+    private static void under(Run law, int number, int many, int fallen) {
         due.is(17, "under(" + number + ", 0)", law.under(number, 0), many);
         due.is(17, "under(" + number + ", 1)", law.under(number, 1), fallen);
     }
 
     private static void aLawUnderAll() {
-        OldestLaw law = new OldestLaw();
+        Run law = new Run();
         Due.law(law, "x=0", 0, 0);
         Due.law(law, "y=0", 20, 1);
         Due.law(law, "x<2", 30, 0);
@@ -329,7 +329,7 @@ public final class MightTest {
         due.is(17, "under(2, -1)", law.under(2, -1), -1);
         due.is(17, "under(3, 0)", law.under(3, 0), -1);
         due.is(17, "under(-1, 0)", law.under(-1, 0), -1);
-        OldestLaw dated = new OldestLaw();
+        Run dated = new Run();
         Due.law(dated, "d<0", 50, 1);
         Due.law(dated, "1", 0, 2);
         under(dated, 0, 125, 0);
@@ -338,13 +338,13 @@ public final class MightTest {
         under(dated, 1, 0, 0);
     }
 
-    private static void unlike(OldestLaw law, int rs, int many, int first) {
+    private static void unlike(Run law, int rs, int many, int first) {
         due.is(18, "unlike(" + rs + ", 0)", law.unlike(rs, 0), many);
         due.is(18, "unlike(" + rs + ", 1)", law.unlike(rs, 1), first);
     }
 
     private static void rulesUnlike() {
-        OldestLaw law = new OldestLaw();
+        Run law = new Run();
         unlike(law, 3, 0, NOT);
         Due.law(law, "x<3", 10, 2);
         Due.law(law, "y=1", 20, 0);
@@ -362,7 +362,7 @@ public final class MightTest {
         for (int rs : bad) {
             unlike(law, rs, -1, -1);
         }
-        OldestLaw ends = new OldestLaw();
+        Run ends = new Run();
         Due.law(ends, "x=y&y=z", 10, 2);
         Due.law(ends, "x+y+z=0|x+y+z=12", 20, 1);
         unlike(ends, 1, 2, 0);
@@ -373,7 +373,7 @@ public final class MightTest {
     }
 
     private static void ringsOfLaws() {
-        OldestLaw law = new OldestLaw();
+        Run law = new Run();
         due.is(19, "rings()", law.rings(), 0);
         for (int k = 0; k < 10; k++) {
             Due.law(law, "1", 10 + k, 0);
@@ -401,20 +401,20 @@ public final class MightTest {
         due.is(19, "rings() of ten but one", law.rings(), (1 << 2) + (1 << 5) + (1 << 8) + (1 << 1) + (1 << 4));
         law.mend(4, 2, -1);
         due.is(19, "rings()", law.rings(), 0);
-        OldestLaw missing = new OldestLaw();
+        Run missing = new Run();
         Due.law(missing, "1", 0, 0);
         missing.mend(0, 2, 1);
         due.is(19, "rings(), who is struck is missing", missing.rings(), 0);
     }
 
-    private static void all(int promise, OldestLaw law, int number, int date, int says, int strikes) {
+    private static void all(int promise, Run law, int number, int date, int says, int strikes) {
         due.is(promise, "of(" + number + ", 0)", law.of(number, 0), date);
         due.is(promise, "of(" + number + ", 1)", law.of(number, 1), says);
         due.is(promise, "of(" + number + ", 2)", law.of(number, 2), strikes);
     }
 
     private static void imagesOfAll() {
-        OldestLaw law = new OldestLaw();
+        Run law = new Run();
         due.is(21, "back()", law.back(), -5);
         due.is(20, "image()", law.image(), 0);
         due.is(21, "back()", law.back(), 0);
@@ -462,7 +462,7 @@ public final class MightTest {
     }
 
     private static void undoneAndDoneAgain() {
-        OldestLaw law = new OldestLaw();
+        Run law = new Run();
         due.is(22, "undo()", law.undo(), -5);
         due.is(23, "redo()", law.redo(), -5);
         Due.law(law, "x=1", 10, 0);
@@ -507,7 +507,7 @@ public final class MightTest {
     }
 
     private static void whatStaysIsNoChange() {
-        OldestLaw law = new OldestLaw();
+        Run law = new Run();
         Due.law(law, "x=1", 10, 2);
         int[][] same = {{0, 10}, {1, 2}, {2, -1}, {3, 0}, {4, 99}};
         for (int[] each : same) {
@@ -540,7 +540,7 @@ public final class MightTest {
     }
 
     private static void theLatestForty() {
-        OldestLaw law = new OldestLaw();
+        Run law = new Run();
         Due.law(law, "x=1", 99, 0);
         for (int k = 0; k < 45; k++) {
             law.mend(0, 0, k);
@@ -568,7 +568,7 @@ public final class MightTest {
 
     /** As many changes as make the first ones be dropped, each of another law and kind than the next. */
     private static void changesOfAllKinds() {
-        OldestLaw law = new OldestLaw();
+        Run law = new Run();
         Due.law(law, "1", 0, 0);
         Due.law(law, "1", 0, 0);
         Due.law(law, "1", 0, 0);

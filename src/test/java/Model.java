@@ -7,6 +7,7 @@ import java.util.HashSet;
 import java.util.List;
 import java.util.Map;
 import java.util.Set;
+import java.util.TreeSet;
 
 /**
  * The document once more, made another way: every answer is worked out anew from whole copies of what is told,
@@ -23,7 +24,7 @@ final class Model {
     }
 
     private static final Map<String, Set<Integer>> SPEECHES = new HashMap<>();
-    private static final List<Integer> CASES = allCases();
+    private static final Set<Integer> CASES = allCases();
 
     /** What a verdict hangs on. */
     static final class World {
@@ -78,7 +79,9 @@ final class Model {
         /** The cases in which a law speaks; a text of like names speaks in like cases. */
         Set<Integer> speech(Told law) {
             int[] means = {meaning(0), meaning(1), meaning(2)};
-            String key = law.text + " " + law.date + " " + today + " " + law.number + Arrays.toString(means);
+            String key = law.text + (law.text.indexOf('d') < 0 ? "" : " d" + law.date)
+                + (law.text.indexOf('t') < 0 ? "" : " t" + today)
+                + (law.text.indexOf('n') < 0 ? "" : " n" + law.number) + Arrays.toString(means);
             return SPEECHES.computeIfAbsent(key, k -> {
                 Set<Integer> speech = new HashSet<>();
                 for (int kase : cases()) {
@@ -122,23 +125,24 @@ final class Model {
         }
     }
 
-    static List<Integer> cases() {
+    static Set<Integer> cases() {
         return CASES;
     }
 
-    private static List<Integer> allCases() {
-        List<Integer> all = new ArrayList<>();
-        for (int kase = 0; kase <= 444; kase++) {
-            if (isCase(kase)) {
-                all.add(kase);
+    private static Set<Integer> allCases() {
+        Set<Integer> all = new TreeSet<>();
+        for (int x = 0; x <= 4; x++) {
+            for (int y = 0; y <= 4; y++) {
+                for (int z = 0; z <= 4; z++) {
+                    all.add(100 * x + 10 * y + z);
+                }
             }
         }
         return all;
     }
 
     static boolean isCase(int kase) {
-        String digits = "00" + kase;
-        return kase >= 0 && kase <= 444 && digits.substring(digits.length() - 3).matches("[0-4][0-4][0-4]");
+        return CASES.contains(kase);
     }
 
     // texts
@@ -578,10 +582,7 @@ final class Model {
         }
         for (int size = 0; size <= world.laws.size(); size++) {
             for (int set = 0; set < bit(world.laws.size()); set++) {
-                World other = world.copy();
-                int without = set;
-                other.laws.removeIf(law -> (without >> law.number & 1) == 1);
-                if (Integer.bitCount(set) == size && wrong(other, rowOn(shelf)) == NOT) {
+                if (Integer.bitCount(set) == size && wrong(worldWithout(set), rowOn(shelf)) == NOT) {
                     return set;
                 }
             }

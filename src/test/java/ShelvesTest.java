@@ -19,7 +19,7 @@ public final class ShelvesTest {
     }
 
     private static void bodiesKept() {
-        OldestLaw law = new OldestLaw();
+        Run law = new Run();
         due.is(24, "body(-1)", law.body(-1), -1);
         due.is(24, "body(8)", law.body(8), -1);
         for (int k = 0; k < 50; k++) {
@@ -34,7 +34,7 @@ public final class ShelvesTest {
         }
     }
 
-    private static void acted(OldestLaw law, int body, int act, int x, int want, int... trace) {
+    private static void acted(Run law, int body, int act, int x, int want, int... trace) {
         String call = "act(" + body + ", " + act + ", " + x + ")";
         due.is(25, call, law.act(body, act, x), want);
         due.is(33, call + ": count(6)", law.count(6), trace.length);
@@ -47,7 +47,7 @@ public final class ShelvesTest {
 
     /** Each kind stands twice, so that numbers are not kinds: body 10 + kind, and x is 100. */
     private static void actsOfEachKind() {
-        OldestLaw law = new OldestLaw();
+        Run law = new Run();
         for (int k = 0; k < 18; k++) {
             law.body(k < 10 ? 0 : k - 10);
         }
@@ -86,7 +86,7 @@ public final class ShelvesTest {
     }
 
     private static void actsThatWrap() {
-        OldestLaw law = new OldestLaw();
+        Run law = new Run();
         int max = Integer.MAX_VALUE, min = Integer.MIN_VALUE;
         for (int kind = 0; kind < 8; kind++) {
             law.body(kind);
@@ -101,7 +101,7 @@ public final class ShelvesTest {
     }
 
     private static void noSuchAct() {
-        OldestLaw law = new OldestLaw();
+        Run law = new Run();
         acted(law, 0, 0, 7, 0);
         law.body(5);
         int[][] bad = {{1, 0}, {-1, 0}, {50, 0}, {0, 4}, {0, -1}, {Integer.MIN_VALUE, 0}, {0, Integer.MAX_VALUE}};
@@ -118,7 +118,7 @@ public final class ShelvesTest {
     }
 
     private static void whatShelvesHold() {
-        OldestLaw law = new OldestLaw();
+        Run law = new Run();
         law.body(6);
         law.body(4);
         due.is(27, "keep(0, 0)", law.keep(0, 0), 1);
@@ -145,7 +145,7 @@ public final class ShelvesTest {
     private static void rowsOfEachSort() {
         long[] given = {0, 1, -1, 127, 128, 255, 256, -129, 32767, 32768, 65536, 1L << 31, (1L << 31) - 1, 1L << 32,
             Long.MAX_VALUE, Long.MIN_VALUE, 7};
-        OldestLaw law = new OldestLaw();
+        Run law = new Run();
         for (int sort = 0; sort < 5; sort++) {
             due.is(28, "row(2, " + sort + ", 17)", law.row(2, sort, 17), 1);
             for (int i = 0; i < 17; i++) {
@@ -166,7 +166,7 @@ public final class ShelvesTest {
     }
 
     private static void placesOfARow() {
-        OldestLaw law = new OldestLaw();
+        Run law = new Run();
         int[][] bad = {{-1, 0, 1}, {6, 0, 1}, {0, -1, 1}, {0, 5, 1}, {0, 0, 61}, {0, 5, -1}, {6, 0, -1}, {0, -1, -1},
             {0, 0, Integer.MAX_VALUE}};
         for (int[] each : bad) {
@@ -203,7 +203,7 @@ public final class ShelvesTest {
         due.is(30, "element(0, 0) of a body", law.element(0, 0), NONE);
     }
 
-    private static void holds(OldestLaw law, int shelf, long... want) {
+    private static void holds(Run law, int shelf, long... want) {
         for (int i = 0; i < want.length; i++) {
             due.is(31, "element(" + shelf + ", " + i + ")", law.element(shelf, i), want[i]);
         }
@@ -211,7 +211,7 @@ public final class ShelvesTest {
     }
 
     private static void elementsShifted() {
-        OldestLaw law = new OldestLaw();
+        Run law = new Run();
         Due.row(law, 0, Due.INTS, 1, 2, 3, 4, 5);
         Due.row(law, 1, Due.INTS, 9, 9, 9);
         due.is(31, "shift(0, 0, 0, 1, 4)", law.shift(0, 0, 0, 1, 4), 4);
@@ -233,13 +233,13 @@ public final class ShelvesTest {
         due.is(31, "shift(3, 0, 3, 0, 60)", law.shift(3, 0, 3, 0, 60), 60);
     }
 
-    private static void shifted(OldestLaw law, int want, int shelf, int i, int other, int j, int n) {
+    private static void shifted(Run law, int want, int shelf, int i, int other, int j, int n) {
         due.is(31, "shift(" + shelf + ", " + i + ", " + other + ", " + j + ", " + n + ")",
             law.shift(shelf, i, other, j, n), want);
     }
 
     private static void refusalsOfAShift() {
-        OldestLaw law = new OldestLaw();
+        Run law = new Run();
         int max = Integer.MAX_VALUE, min = Integer.MIN_VALUE;
         Due.row(law, 0, Due.INTS, 1, 2, 3, 4, 5);
         Due.row(law, 1, Due.INTS, 9, 9, 9);
@@ -273,7 +273,7 @@ public final class ShelvesTest {
     }
 
     private static void bodiesTaken() {
-        OldestLaw law = new OldestLaw();
+        Run law = new Run();
         int[] under = {0b1, 0b11, 0b101, 0b1101, 0b10011, 0b101101, 0b1000001, 0b11000001};
         for (int kind = 0; kind < 8; kind++) {
             law.keep(4, law.body(kind));
@@ -295,7 +295,7 @@ public final class ShelvesTest {
     }
 
     private static void whatIsCounted() {
-        OldestLaw law = new OldestLaw();
+        Run law = new Run();
         for (int k = 0; k < 4; k++) {
             Due.law(law, "1", 10 * k, 1);
         }
