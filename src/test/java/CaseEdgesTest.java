@@ -16,6 +16,7 @@ public final class CaseEdgesTest {
         whoIsBeaten();
         shelvesJudged();
         rowsOfFewElements();
+        anEndThatLacks();
         rowsOfSixtyElements();
         whatIsNoTwo();
         verdictsJudged();
@@ -284,6 +285,25 @@ public final class CaseEdgesTest {
         judged(new Run(), 0, 444);
         judged(new Run(), NOT, 444, -2);
         judged(new Run(), 0, 444, 0);
+    }
+
+    /** An element that lacks is no 0, by which a LAW SAYS MAY NOT. */
+    private static void anEndThatLacks() {
+        due.by(10, "the first two that is not so (.. a two's end that lacks, too)");
+        Run law = new Run();
+        Due.law(law, "1", 0, 0);
+        judged(law, 0, 0);
+        judged(law, NOT, 0, 0);
+        judged(law, 1, 0, 0, 0);
+        judged(law, 1, 444, 0, 444);
+        judged(law, NOT, 444, 0, 444, 0);
+        judged(law, 0, 444);
+        long[] row = new long[60];
+        judged(law, NOT, row);
+        judged(law, 29, java.util.Arrays.copyOf(row, 59));
+        Due.row(law, 0, Due.SHORTS, 0, 0, 0, 2);
+        law.row(0, Due.SHORTS, 3);
+        due.is(law.judge(0), 1);
     }
 
     private static void rowsOfSixtyElements() {

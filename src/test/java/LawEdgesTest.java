@@ -23,6 +23,7 @@ public final class LawEdgesTest {
         noRowOfBytes();
         theTextIsThatOneComparison();
         datesMended();
+        datesAndDaysNamed();
         sayingsMended();
         strikesMended();
         ruleAndTodayMended();
@@ -457,6 +458,37 @@ public final class LawEdgesTest {
         for (int number : new int[] {-1, 2, 10, MAX}) {
             refused(number, 1, 0, VOID, 1);
         }
+    }
+
+    private static void datesAndDaysNamed() {
+        due.by(5, "d the LAW's DATE, t TODAY: as they were mended");
+        Run law = new Run();
+        Due.law(law, "x=d", 3, 1);
+        Due.law(law, "y=t-90", 0, 1);
+        for (int date : new int[] {4, 0, 99, 0, 1, 5, 2}) {
+            law.mend(0, 0, date);
+            due.is(law.of(0, 5), date < 5 ? 25 : 0);
+            due.is(law.speaks(0, 100 * Math.min(date, 4)), date < 5 ? 1 : 0);
+        }
+        for (int today : new int[] {90, 0, 94, 95, 91, 99, 93}) {
+            law.mend(0, 4, today);
+            boolean some = today >= 90 && today <= 94;
+            due.is(law.of(1, 5), some ? 25 : 0);
+            due.is(law.speaks(1, some ? 10 * (today - 90) : 0), some ? 1 : 0);
+            due.is(law.of(0, 5), 25);
+        }
+        law.undo();
+        due.is(law.of(1, 5), 0);
+        law.undo();
+        due.is(law.speaks(1, 10), 1);
+        law.redo();
+        due.is(law.of(1, 5), 0);
+        law.image();
+        law.mend(0, 0, 4);
+        due.is(law.speaks(0, 400), 1);
+        law.back();
+        due.is(law.speaks(0, 400), 0);
+        due.is(law.speaks(0, 200), 1);
     }
 
     private static void strikesMended() {

@@ -17,6 +17,7 @@ public final class MightEdgesTest {
         neitherSpeakingNorNot();
         barredByTheNarrowest();
         theFirstBarredOfThirty();
+        anEndThatLacks();
         wordsMeant();
         casesMeant();
         setsOfFalseOnes();
@@ -331,6 +332,22 @@ public final class MightEdgesTest {
         barred(law, 50, 1, 1, row);
         barred(law, 50, 1, NOT, java.util.Arrays.copyOfRange(row, 2, 53));
         barred(law, 50, 1, 0, java.util.Arrays.copyOfRange(row, 2, 58));
+    }
+
+    /** An element that lacks is no 0, by which a LAW SAYS MAY NOT: no WORDING and no set of LAWS makes it so. */
+    private static void anEndThatLacks() {
+        due.by(13, "a ROW, as of JUDGED (.. a two's end that lacks, too)");
+        for (long[] row : new long[][] {{0}, {444}, {0, 0, 0}, {0, 0, 444}, new long[59]}) {
+            written(new Run(), 5, 0, NOT, row);
+            written(ruled(0, "1", 50, 0), 5, 0, NOT, row);
+            barred(ruled(0, "1", 50, 0), 5, 0, NOT, row);
+            unsaid(ruled(0, "1", 50, 0), NOT, row);
+        }
+        barred(ruled(0, "1", 0, 2), 5, 0, NOT, 0);
+        barred(ruled(0, "1", 0, 2), 5, 0, NOT, 0, 2, 444);
+        barred(ruled(0, "1", 0, 2), 5, 0, 0, 0, 0, 444);
+        written(new Run(), 5, 0, 0, new long[60]);
+        unsaid(ruled(0, "1", 50, 0), 0, new long[60]);
     }
 
     // meant

@@ -26,7 +26,7 @@ public final class ModelTest {
     }
 
     public static void main(String[] args) {
-        int runs = args.length > 0 ? Integer.parseInt(args[0]) : 30;
+        int runs = args.length > 0 ? Integer.parseInt(args[0]) : 100;
         long first = args.length > 1 ? Long.parseLong(args[1]) : 1;
         Due due = new Due();
         for (long seed = first; seed < first + runs; seed++) {

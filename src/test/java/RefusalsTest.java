@@ -137,7 +137,7 @@ public final class RefusalsTest {
     private static Run some() {
         Run law = new Run();
         Due.law(law, "x=1", 10, 2);
-        Due.law(law, "y>1|z", 20, 0);
+        Due.law(law, "y>1|z>d-19", 20, 0);
         Due.law(law, "x<d", 90, 1);
         law.mend(0, 4, 80);
         law.mend(1, 2, 0);

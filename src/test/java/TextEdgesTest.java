@@ -71,7 +71,10 @@ public final class TextEdgesTest {
         comes("x", of59, of59.substring(0, 57) + "+12");
         due.is(speaksIn("0" + "+0".repeat(27) + "+100"), 125);
         due.is(speaksIn("0" + "+0".repeat(27) + "+000"), 0);
-        due.is(speaksIn("1" + "-0".repeat(28) + "-0"), 125);
+        due.is(speaksIn("!x" + "+1".repeat(29)), 125);
+        due.is(speaksIn("0" + "|0".repeat(27) + "|!!x"), 100);
+        due.is(speaksIn("0;".repeat(29) + "1"), 0);
+        due.is(speaksIn("0?1;".repeat(14) + "x=1"), 25);
         faulty(59, of59 + ")", of59 + "q", of59 + "x", of59 + " ");
         faulty(58, of59.substring(0, 58) + ")1");
         Run law = new Run();
@@ -305,6 +308,9 @@ public final class TextEdgesTest {
         always("8-4-2=2", "16/4/2=2", "17%7%2=1", "2+3*2=8", "2*3+2=8", "7-2*3=1", "2*6/4=3", "2/4*6=0", "9%4*2=2");
         always("1|1&0", "0&1|1", "!(1|1&0)=0", "-2+3=1", "-(2+3)=-5", "!1+1", "!(1+1)=0", "2<1+2", "1=1&2=2", "--2=2");
         nowhere("(1|1)&0", "0&(1|1)", "!1&1", "1-1-0", "2-(1+1)");
+        due.is(speaksIn("0|1&0<0+1*(".repeat(4) + "x))))"), 100);
+        due.is(speaksIn("1-(".repeat(6) + "x" + ")".repeat(6)), 100);
+        due.is(speaksIn("1-(".repeat(5) + "x" + ")".repeat(5)), 100);
     }
 
     private static void whichLineCounts() {
