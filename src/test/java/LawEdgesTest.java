@@ -5,6 +5,7 @@ public final class LawEdgesTest {
     private static final int VOID = -2000000000;
 
     public static void main(String[] args) {
+        theConstants();
         nothingAtFirst();
         defaultsAtFirst();
         theLastCall();
@@ -40,6 +41,15 @@ public final class LawEdgesTest {
         whoStands();
         speaksInHowMany();
         due.end();
+    }
+
+    private static void theConstants() {
+        due.by(1, "BAD = -1, NOT = -2, FULL = -3, STATE = -5, VOID = -2000000000");
+        due.is(OldestLaw.BAD, BAD);
+        due.is(OldestLaw.NOT, -2);
+        due.is(OldestLaw.FULL, FULL);
+        due.is(OldestLaw.STATE, -5);
+        due.is(OldestLaw.VOID, VOID);
     }
 
     private static void nothingAtFirst() {
