@@ -673,7 +673,8 @@ public final class MightEdgesTest {
     }
 
     private static void whatAnImageKeeps() {
-        due.by(21, "AN IMAGE keeps WORDS as MOVED, and DATES, what LAWS SAY, which they STRIKE. (CHANGES are forgotten)");
+        due.by(21, "AN IMAGE keeps WORDS as MOVED, and DATES, what LAWS SAY, which they STRIKE."
+            + " (CHANGES are forgotten)");
         Run law = ruled(1, "x=1", 50, 2);
         law.moved(0, 1, 60);
         law.moved(1, 2, 99);

@@ -3,7 +3,8 @@ import java.util.List;
 
 /**
  * "Answers, of several the one named first ... What is answered so changes nothing": each refused call, and each call
- * that only asks, is made on one of two programs that had like calls; all that can be asked then must be as on the other.
+ * that only asks, is made on one of two programs that had like calls; all that can be asked then must be as on the
+ * other.
  */
 public final class RefusalsTest {
     private static final Due due = new Due();
@@ -413,7 +414,8 @@ public final class RefusalsTest {
             law -> law.of(0, 20), law -> law.of(0, 21));
         due.by(8, "What is only asked changes nothing.");
         asks(law -> law.speaks(0, 1), law -> law.speaks(2, 444), law -> law.verdict(1, 0), law -> law.verdict(44, 1),
-            law -> law.verdict(44, 2), law -> law.judge(0), Run::never, law -> law.clash(1, 0), law -> law.clash(10, 1));
+            law -> law.verdict(44, 2), law -> law.judge(0), Run::never, law -> law.clash(1, 0),
+            law -> law.clash(10, 1));
         due.by(13, "What is only asked changes nothing.");
         asks(law -> law.write(0, 0, 1), law -> law.write(0, 99, 2), law -> law.bars(0, 0, 1), law -> law.bars(0, 99, 2),
             law -> law.falseOnes(0), law -> law.unlike(1, 0), law -> law.unlike(23, 1), Run::rings);

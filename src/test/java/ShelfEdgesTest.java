@@ -130,8 +130,8 @@ public final class ShelfEdgesTest {
         return law;
     }
 
-    private static final int[] FAR = {0, 1, -1, 5, -7, MAX, MAX - 1, MAX - 7, MIN, MIN + 1, MIN + 7, 1 << 30, -(1 << 30),
-        0x55555555, 0xaaaaaaaa};
+    private static final int[] FAR = {0, 1, -1, 5, -7, MAX, MAX - 1, MAX - 7, MIN, MIN + 1, MIN + 7, 1 << 30,
+        -(1 << 30), 0x55555555, 0xaaaaaaaa};
 
     private static int says(int kind, int x) {
         int plain = x + kind;
@@ -282,7 +282,8 @@ public final class ShelfEdgesTest {
     }
 
     private static void sortsAndSizesOfARow() {
-        due.by(28, "a ROW: of 0 bytes, 1 shorts, 2 ints, 3 longs, 4 booleans, of 0 .. 60 elements. BAD (sort, n above 60)");
+        due.by(28, "a ROW: of 0 bytes, 1 shorts, 2 ints, 3 longs, 4 booleans, of 0 .. 60 elements. BAD (sort, n"
+            + " above 60)");
         Run law = new Run();
         for (int sort = 0; sort < 5; sort++) {
             for (int n : new int[] {0, 1, 59, 60}) {
@@ -555,8 +556,8 @@ public final class ShelfEdgesTest {
     }
 
     private static void whatIsCounted() {
-        due.by(33, "How many: 0 LAWS, 1 LAWS that are there, 2 LAWS that STAND, 3 bytes on THE TAPE, 4 changes, 5 BODIES,"
-            + " 6 bodies that ran. BAD.");
+        due.by(33, "How many: 0 LAWS, 1 LAWS that are there, 2 LAWS that STAND, 3 bytes on THE TAPE, 4 changes,"
+            + " 5 BODIES, 6 bodies that ran. BAD.");
         Run law = new Run();
         for (int what : new int[] {-1, 7, 8, 10, MIN, MAX}) {
             due.is(law.count(what), BAD);
@@ -588,8 +589,8 @@ public final class ShelfEdgesTest {
     private static void bodiesThatRan() {
         due.by(33, "6 bodies that ran in the latest act() (all, kept or not)");
         Run law = ofEachKind();
-        int[][] ran = {{1, 2, 1, 4}, {2, 3, 1, 5}, {1, 3, 1, 5}, {1, 4, 2, 7}, {2, 3, 1, 6}, {1, 4, 4, 10}, {2, 3, 1, 5},
-            {3, 6, 1, 8}};
+        int[][] ran = {{1, 2, 1, 4}, {2, 3, 1, 5}, {1, 3, 1, 5}, {1, 4, 2, 7}, {2, 3, 1, 6}, {1, 4, 4, 10},
+            {2, 3, 1, 5}, {3, 6, 1, 8}};
         due.is(law.count(6), 0);
         for (int kind = 0; kind < 8; kind++) {
             for (int act = 0; act < 4; act++) {
